@@ -187,8 +187,7 @@ public final class PieceCutter {
       if (stays) {
         spare.addCopy(kept, c);
       }
-      // The new corner is reckoned from the one that stays, whichever comes first: DIV rounds
-      // down, so the other way round it could be another corner.
+      // Reckoned from the one that stays, as the document's a - b is then always above 0.
       if (stays && !nextStays) {
         addBetween(c, next, side);
       } else if (!stays && nextStays) {

@@ -7,7 +7,7 @@ import java.util.List;
  * bounds: a long that overflows in the class shows up as a wrong answer.
  */
 public final class ModelTests {
-  private static final int RUNS = 4000;
+  private static final int RUNS = 6000;
   private static long seed = 20261115;
   private static int wrong = 0;
   private static int mostPieces = 0;
@@ -196,6 +196,11 @@ public final class ModelTests {
     return upTo(2 * bound + 1) - bound;
   }
 
+  private static int near(long middle, int reach) {
+    long signed = upTo(4) == 0 ? -middle : middle;
+    return (int) Math.max(-16777216, Math.min(16777216, signed + within(reach)));
+  }
+
   private static void due(String call, long got, long want) {
     if (got != want) {
       wrong++;
@@ -205,7 +210,11 @@ public final class ModelTests {
     }
   }
 
-  /** Kinds of corners: anywhere; before the eye and about the window; close to the near side. */
+  /**
+   * Kinds of corners: anywhere; before the eye and about the window; close to the near side; some
+   * of them behind it; at the bounds; thin slivers along a corner of the window, where rounding
+   * makes rings that are not convex.
+   */
   private static void placeAll(PieceCutter p, Model m, int f, int kind) {
     for (int k = 0; k < 3; k++) {
       int z = within(16777216);
@@ -227,6 +236,11 @@ public final class ModelTests {
         x = upTo(2) == 0 ? 16777216 : -16777216;
         y = upTo(2) == 0 ? 16777216 : -16777216;
         z = upTo(3) == 0 ? -16777216 : 16777216;
+      }
+      if (kind == 5) {
+        z = upTo(3) == 0 ? within(16777216) : 4096 + within(1 << (2 + upTo(16)));
+        x = near((long) z * m.w / f, 1 << upTo(8));
+        y = near((long) z * m.h / f, 1 << upTo(8));
       }
       long[] g = {x, y, z, within(131072), within(131072), upTo(65537)};
       if (upTo(3) == 0) {
@@ -274,7 +288,31 @@ public final class ModelTests {
     }
   }
 
+  /** Close to three corners whose ring is not convex: up to nine corners, one above 3 + 5. */
+  private static void roundNotConvex(int run) {
+    int[][] middle = {{-387, 0, 4104}, {1800000, -2170306, -16000000}, {-9440, 12000, 100000}};
+    PieceCutter p = new PieceCutter(48, 48);
+    Model m = new Model(48, 48);
+    due("focus", p.focus(509) ? 1 : 0, 1);
+    m.f = 509;
+    for (int k = 0; k < 3; k++) {
+      int reach = k == 1 ? 1000 : 1;
+      for (int j = 0; j < 3; j++) {
+        m.given[k][j] = middle[k][j] + within(reach);
+        m.given[k][3 + j] = upTo(65537);
+      }
+      long[] g = m.given[k];
+      due("place", p.place(k, (int) g[0], (int) g[1], (int) g[2]) ? 1 : 0, 1);
+      due("paint", p.paint(k, (int) g[3], (int) g[4], (int) g[5]) ? 1 : 0, 1);
+    }
+    due("run " + run + ": cut(true)", p.cut(true), m.cut(true));
+    compare(run, p, m);
+  }
+
   public static void main(String[] args) {
+    for (int run = 0; run < 300; run++) {
+      roundNotConvex(run);
+    }
     for (int run = 0; run < RUNS; run++) {
       int w = upTo(3) == 0 ? 48 : 6 + upTo(45);
       int h = upTo(3) == 0 ? w : 6 + upTo(45);
@@ -286,7 +324,7 @@ public final class ModelTests {
           due("focus", p.focus(f) ? 1 : 0, 1);
           m.f = f;
         }
-        placeAll(p, m, m.f, run % 5);
+        placeAll(p, m, m.f, run % 6);
         boolean both = upTo(2) == 0;
         due("run " + run + ": cut(" + both + ")", p.cut(both), m.cut(both));
         compare(run, p, m);
@@ -294,7 +332,7 @@ public final class ModelTests {
     }
     System.out.println(wrong == 0 ? "all answers are as due" : wrong + " answers are not as due");
     System.out.println("most pieces of one cut: " + mostPieces);
-    if (wrong != 0 || mostPieces < 5) {
+    if (wrong != 0 || mostPieces < 7) {
       System.exit(1);
     }
   }

@@ -254,7 +254,7 @@ public final class PromiseTests {
   }
 
   private static void cutRounding() {
-    // A new corner is reckoned from the one that stays, down from there, both ways round.
+    // A new corner's numbers are rounded down, whichever way round the side is crossed.
     PieceCutter p = new PieceCutter(8, 8);
     p.focus(512);
     p.place(0, 0, 0, 4098);
