@@ -4,13 +4,18 @@ import java.util.List;
 
 /**
  * Many made-up runs against a second writing of the document's terms, in whole numbers without
- * bounds: a long that overflows in the class shows up as a wrong answer.
+ * bounds: a long that overflows in the class shows up as a wrong answer. Each object answers all
+ * the 512 calls that the document lets it be used for, refused ones among them, and no more.
  */
 public final class ModelTests {
   private static final int RUNS = 6000;
+  private static final int CALLS = 512;
   private static long seed = 20261115;
   private static int wrong = 0;
   private static int mostPieces = 0;
+  private static int mostCovered = 0;
+  private static int refused = 0;
+  private static int hits = 0;
 
   private record Corner(BigInteger[] n) {}
 
@@ -26,6 +31,33 @@ public final class ModelTests {
     Model(int w, int h) {
       this.w = Math.min(48, Math.max(8, w));
       this.h = Math.min(48, Math.max(8, h));
+    }
+
+    boolean focus(int asked) {
+      boolean good = asked >= 8 && asked <= 512;
+      f = good ? asked : f;
+      return good;
+    }
+
+    boolean place(int k, int x, int y, int z) {
+      return set(k, 0, new long[] {x, y, z}, new long[] {-16777216, 16777216, -16777216, 16777216});
+    }
+
+    boolean paint(int k, int u, int v, int l) {
+      return set(k, 3, new long[] {u, v, l}, new long[] {-131072, 131072, 0, 65536});
+    }
+
+    /** The bounds of the first two numbers, then those of the third. */
+    private boolean set(int k, int from, long[] n, long[] bounds) {
+      boolean good = k == 0 || k == 1 || k == 2;
+      for (int j = 0; j < 3; j++) {
+        int b = j < 2 ? 0 : 2;
+        good &= n[j] >= bounds[b] && n[j] <= bounds[b + 1];
+      }
+      if (good) {
+        System.arraycopy(n, 0, given[k], from, 3);
+      }
+      return good;
     }
 
     int cut(boolean both) {
@@ -70,9 +102,22 @@ public final class ModelTests {
       return result;
     }
 
+    boolean has(int i) {
+      return i >= 0 && i < pieces.size();
+    }
+
+    /** The column (0) or row (1) between the piece's corners, so many parts of each. */
+    int between(int i, int which, int[] parts) {
+      long sum = 0;
+      for (int c = 0; c < 3; c++) {
+        sum += parts[c] * pieces.get(i).c()[c].n()[which].longValueExact();
+      }
+      return (int) Math.floorDiv(sum, 16L * (parts[0] + parts[1] + parts[2]));
+    }
+
     /** The three E of a pixel, or null if the piece does not cover it or there is none such. */
     BigInteger[] weights(int i, int x, int y) {
-      if (i < 0 || i >= pieces.size() || x < 0 || x >= w || y < 0 || y >= h) {
+      if (!has(i) || x < 0 || x >= w || y < 0 || y >= h) {
         return null;
       }
       Corner[] c = pieces.get(i).c();
@@ -210,129 +255,265 @@ public final class ModelTests {
     }
   }
 
+  /** One object and its model: each call is asked of both, and counted. */
+  private static final class Run {
+    private final String name;
+    private final PieceCutter p;
+    private final Model m;
+    private int calls = 0;
+
+    Run(String name, int w, int h) {
+      this.name = name;
+      p = new PieceCutter(w, h);
+      m = new Model(w, h);
+    }
+
+    int left() {
+      return CALLS - calls;
+    }
+
+    private void check(String call, long got, long want) {
+      calls++;
+      if (calls > CALLS) {
+        throw new IllegalStateException("the test asks too much of one object");
+      }
+      due(name + ": call " + calls + ": " + call, got, want);
+    }
+
+    private void check(String call, boolean got, boolean want) {
+      refused += want ? 0 : 1;
+      check(call, got ? 1 : 0, want ? 1 : 0);
+    }
+
+    void focus(int f) {
+      check("focus(" + f + ")", p.focus(f), m.focus(f));
+    }
+
+    void place(int k, int x, int y, int z) {
+      String call = "place(" + k + ", " + x + ", " + y + ", " + z + ")";
+      check(call, p.place(k, x, y, z), m.place(k, x, y, z));
+    }
+
+    void paint(int k, int u, int v, int l) {
+      String call = "paint(" + k + ", " + u + ", " + v + ", " + l + ")";
+      check(call, p.paint(k, u, v, l), m.paint(k, u, v, l));
+    }
+
+    void cut(boolean both) {
+      check("cut(" + both + ")", p.cut(both), m.cut(both));
+      mostPieces = Math.max(mostPieces, m.pieces.size());
+    }
+
+    /** A call that tells something, of a piece that there is or one beside them. */
+    void ask() {
+      int count = m.pieces.size();
+      int i = count > 0 && upTo(8) > 0 ? upTo(count) : beside(count);
+      int kind = upTo(8);
+      if (kind == 0) {
+        BigInteger want = m.has(i) ? m.pieces.get(i).area() : big(-1);
+        check("area(" + i + ")", p.area(i), want.longValueExact());
+      } else if (kind < 3) {
+        askPiece(i, upTo(8) > 0 ? upTo(3) : beside(3), upTo(8) > 0 ? upTo(6) : beside(6));
+      } else if (kind == 3) {
+        int y = upTo(8) > 0 ? upTo(m.h) : beside(m.h);
+        check("first(" + i + ", " + y + ")", p.first(i, y), m.firstOrLast(i, y, true));
+      } else if (kind == 4) {
+        int y = upTo(8) > 0 ? upTo(m.h) : beside(m.h);
+        check("last(" + i + ", " + y + ")", p.last(i, y), m.firstOrLast(i, y, false));
+      } else {
+        askPixel(i, kind);
+      }
+    }
+
+    private void askPiece(int i, int c, int what) {
+      boolean there = m.has(i) && c >= 0 && c < 3 && what >= 0 && what < 6;
+      long want = there ? m.pieces.get(i).c()[c].n()[what].intValueExact() : 0;
+      check("piece(" + i + ", " + c + ", " + what + ")", p.piece(i, c, what), want);
+    }
+
+    /** Mostly a pixel where the piece is: somewhere between its three corners. */
+    private void askPixel(int i, int kind) {
+      int x = upTo(8) > 0 ? upTo(m.w) : beside(m.w);
+      int y = upTo(8) > 0 ? upTo(m.h) : beside(m.h);
+      if (m.has(i) && upTo(4) > 0) {
+        int[] parts = {upTo(10), upTo(10), 1 + upTo(10)};
+        x = m.between(i, 0, parts);
+        y = m.between(i, 1, parts);
+      }
+      String at = x + ", " + y;
+      if (kind == 5) {
+        int want = m.near(i, x, y);
+        hits += want >= 0 ? 1 : 0;
+        check("near(" + i + ", " + at + ")", p.near(i, x, y), want);
+      } else if (kind == 6) {
+        int what = upTo(8) > 0 ? upTo(3) : beside(3);
+        String call = "number(" + i + ", " + at + ", " + what + ")";
+        check(call, p.number(i, x, y, what), m.number(i, x, y, what));
+      } else {
+        int want = m.covered(x, y);
+        mostCovered = Math.max(mostCovered, want);
+        check("covered(" + at + ")", p.covered(x, y), want);
+      }
+    }
+
+    /** A focus, place or paint that the document refuses, for one number that is just too far. */
+    void askWhatIsRefused() {
+      int k = upTo(3);
+      int sign = upTo(2) == 0 ? -1 : 1;
+      int far = sign * (upTo(2) == 0 ? 16777217 : Integer.MAX_VALUE);
+      switch (upTo(9)) {
+        case 0:
+          focus(upTo(2) == 0 ? 7 - upTo(50) : 513 + upTo(50));
+          break;
+        case 1:
+          place(beside(3), within(5000), within(5000), 5000);
+          break;
+        case 2:
+          place(k, far, within(5000), 5000);
+          break;
+        case 3:
+          place(k, within(5000), far, 5000);
+          break;
+        case 4:
+          place(k, within(5000), within(5000), far);
+          break;
+        case 5:
+          paint(beside(3), within(5000), within(5000), upTo(5000));
+          break;
+        case 6:
+          paint(k, upTo(2) == 0 ? sign * 131073 : far, within(5000), upTo(5000));
+          break;
+        case 7:
+          paint(k, within(5000), upTo(2) == 0 ? sign * 131073 : far, upTo(5000));
+          break;
+        default:
+          paint(k, within(5000), within(5000), upTo(2) == 0 ? -1 : 65537);
+          break;
+      }
+    }
+  }
+
+  /** Just outside 0 .. count - 1, or far from it. */
+  private static int beside(int count) {
+    int[] some = {-1, count, count + 1, Integer.MIN_VALUE, Integer.MAX_VALUE, -1 - upTo(60)};
+    return some[upTo(some.length)];
+  }
+
   /**
    * Kinds of corners: anywhere; before the eye and about the window; close to the near side; some
    * of them behind it; at the bounds; thin slivers along a corner of the window, where rounding
    * makes rings that are not convex.
    */
-  private static void placeAll(PieceCutter p, Model m, int f, int kind) {
+  private static void placeOne(Run run, int k, int kind) {
+    int f = run.m.f;
+    int z = within(16777216);
+    int x = within(16777216);
+    int y = within(16777216);
+    if (kind > 0) {
+      z = kind == 1 ? 4096 + upTo(1 << (4 + upTo(20))) : 4096 + within(1 << upTo(13));
+      z = Math.min(z, 16777216);
+      long reach = 2L * z * 48 / f + 2;
+      x = within((int) Math.min(reach, 16777216));
+      y = within((int) Math.min(reach, 16777216));
+    }
+    if (kind == 3 && upTo(2) == 0) {
+      z = -upTo(16777216);
+      x = within(1 << (10 + upTo(15)));
+      y = within(1 << (10 + upTo(15)));
+    }
+    if (kind == 4) {
+      x = upTo(2) == 0 ? 16777216 : -16777216;
+      y = upTo(2) == 0 ? 16777216 : -16777216;
+      z = upTo(3) == 0 ? -16777216 : 16777216;
+    }
+    if (kind == 5) {
+      z = upTo(3) == 0 ? within(16777216) : 4096 + within(1 << (2 + upTo(16)));
+      x = near((long) z * run.m.w / f, 1 << upTo(8));
+      y = near((long) z * run.m.h / f, 1 << upTo(8));
+    }
+    run.place(k, x, y, z);
+  }
+
+  private static void paintOne(Run run, int k) {
+    int u = within(131072);
+    if (upTo(3) == 0) {
+      int most = upTo(2) == 0 ? 131072 : -131072;
+      run.paint(k, most, -most, 65536);
+    } else {
+      run.paint(k, u, within(131072), upTo(65537));
+    }
+  }
+
+  /** At times a corner keeps what it had before, all 0 in the first round. */
+  private static void round(Run run, int kind) {
+    if (upTo(3) > 0) {
+      run.focus(upTo(3) == 0 ? 512 : 8 + upTo(505));
+    }
     for (int k = 0; k < 3; k++) {
-      int z = within(16777216);
-      int x = within(16777216);
-      int y = within(16777216);
-      if (kind > 0) {
-        z = kind == 1 ? 4096 + upTo(1 << (4 + upTo(20))) : 4096 + within(1 << upTo(13));
-        z = Math.min(z, 16777216);
-        long reach = 2L * z * 48 / f + 2;
-        x = within((int) Math.min(reach, 16777216));
-        y = within((int) Math.min(reach, 16777216));
+      if (upTo(8) > 0) {
+        placeOne(run, k, kind);
       }
-      if (kind == 3 && upTo(2) == 0) {
-        z = -upTo(16777216);
-        x = within(1 << (10 + upTo(15)));
-        y = within(1 << (10 + upTo(15)));
+      if (upTo(8) > 0) {
+        paintOne(run, k);
       }
-      if (kind == 4) {
-        x = upTo(2) == 0 ? 16777216 : -16777216;
-        y = upTo(2) == 0 ? 16777216 : -16777216;
-        z = upTo(3) == 0 ? -16777216 : 16777216;
-      }
-      if (kind == 5) {
-        z = upTo(3) == 0 ? within(16777216) : 4096 + within(1 << (2 + upTo(16)));
-        x = near((long) z * m.w / f, 1 << upTo(8));
-        y = near((long) z * m.h / f, 1 << upTo(8));
-      }
-      long[] g = {x, y, z, within(131072), within(131072), upTo(65537)};
-      if (upTo(3) == 0) {
-        g[3] = upTo(2) == 0 ? 131072 : -131072;
-        g[4] = -g[3];
-        g[5] = 65536;
-      }
-      due("place", p.place(k, x, y, z) ? 1 : 0, 1);
-      due("paint", p.paint(k, (int) g[3], (int) g[4], (int) g[5]) ? 1 : 0, 1);
-      m.given[k] = g;
+    }
+    for (int n = upTo(4); n > 0; n--) {
+      run.askWhatIsRefused();
+    }
+    run.cut(upTo(2) == 0);
+    for (int n = upTo(100); n > 0; n--) {
+      run.ask();
+    }
+    // The pieces stay as they are till the next cut, whatever else is called.
+    run.askWhatIsRefused();
+    placeOne(run, upTo(3), kind);
+    run.focus(6 + upTo(509));
+    for (int n = upTo(10); n > 0; n--) {
+      run.ask();
     }
   }
 
-  private static void compare(int run, PieceCutter p, Model m) {
-    String where = "run " + run + ": ";
-    int count = m.pieces.size();
-    mostPieces = Math.max(mostPieces, count);
-    for (int i = -1; i <= count; i++) {
-      boolean there = i >= 0 && i < count;
-      due(where + "area(" + i + ")", p.area(i), there ? m.pieces.get(i).area().intValueExact() : -1);
-      for (int c = 0; c < 18; c++) {
-        long want = there ? m.pieces.get(i).c()[c / 6].n()[c % 6].intValueExact() : 0;
-        due(where + "piece(" + i + ", " + c / 6 + ", " + c % 6 + ")", p.piece(i, c / 6, c % 6), want);
-      }
-      for (int n = 0; n < 4; n++) {
-        int y = upTo(m.h + 2) - 1;
-        due(where + "first(" + i + ", " + y + ")", p.first(i, y), m.firstOrLast(i, y, true));
-        due(where + "last(" + i + ", " + y + ")", p.last(i, y), m.firstOrLast(i, y, false));
-      }
+  private static void madeUp(int number) {
+    int w = upTo(3) == 0 ? 48 : 6 + upTo(45);
+    int h = upTo(3) == 0 ? w : 6 + upTo(45);
+    Run run = new Run("run " + number, w, h);
+    while (run.left() > 150) {
+      round(run, number % 6);
     }
-    for (int n = 0; n < 12; n++) {
-      comparePixel(where, p, m, upTo(m.w + 2) - 1, upTo(m.h + 2) - 1);
-    }
-  }
-
-  private static void comparePixel(String where, PieceCutter p, Model m, int x, int y) {
-    String at = x + ", " + y;
-    due(where + "covered(" + at + ")", p.covered(x, y), m.covered(x, y));
-    for (int i = -1; i <= m.pieces.size(); i++) {
-      due(where + "near(" + i + ", " + at + ")", p.near(i, x, y), m.near(i, x, y));
-      for (int what = -1; what < 4; what++) {
-        String call = where + "number(" + i + ", " + at + ", " + what + ")";
-        due(call, p.number(i, x, y, what), m.number(i, x, y, what));
-      }
+    while (run.left() > 0) {
+      run.ask();
     }
   }
 
   /** Close to three corners whose ring is not convex: up to nine corners, one above 3 + 5. */
-  private static void roundNotConvex(int run) {
+  private static void roundNotConvex(int number) {
     int[][] middle = {{-387, 0, 4104}, {1800000, -2170306, -16000000}, {-9440, 12000, 100000}};
-    PieceCutter p = new PieceCutter(48, 48);
-    Model m = new Model(48, 48);
-    due("focus", p.focus(509) ? 1 : 0, 1);
-    m.f = 509;
+    Run run = new Run("not convex " + number, 48, 48);
+    run.focus(509);
     for (int k = 0; k < 3; k++) {
       int reach = k == 1 ? 1000 : 1;
-      for (int j = 0; j < 3; j++) {
-        m.given[k][j] = middle[k][j] + within(reach);
-        m.given[k][3 + j] = upTo(65537);
-      }
-      long[] g = m.given[k];
-      due("place", p.place(k, (int) g[0], (int) g[1], (int) g[2]) ? 1 : 0, 1);
-      due("paint", p.paint(k, (int) g[3], (int) g[4], (int) g[5]) ? 1 : 0, 1);
+      int x = middle[k][0] + within(reach);
+      run.place(k, x, middle[k][1] + within(reach), middle[k][2] + within(reach));
+      run.paint(k, within(65536), within(65536), upTo(65537));
     }
-    due("run " + run + ": cut(true)", p.cut(true), m.cut(true));
-    compare(run, p, m);
+    run.cut(true);
+    while (run.left() > 0) {
+      run.ask();
+    }
   }
 
   public static void main(String[] args) {
-    for (int run = 0; run < 300; run++) {
-      roundNotConvex(run);
+    for (int number = 0; number < 300; number++) {
+      roundNotConvex(number);
     }
-    for (int run = 0; run < RUNS; run++) {
-      int w = upTo(3) == 0 ? 48 : 6 + upTo(45);
-      int h = upTo(3) == 0 ? w : 6 + upTo(45);
-      PieceCutter p = new PieceCutter(w, h);
-      Model m = new Model(w, h);
-      for (int round = 0; round < 3; round++) {
-        int f = upTo(3) == 0 ? 512 : 8 + upTo(505);
-        if (round > 0) {
-          due("focus", p.focus(f) ? 1 : 0, 1);
-          m.f = f;
-        }
-        placeAll(p, m, m.f, run % 6);
-        boolean both = upTo(2) == 0;
-        due("run " + run + ": cut(" + both + ")", p.cut(both), m.cut(both));
-        compare(run, p, m);
-      }
+    for (int number = 0; number < RUNS; number++) {
+      madeUp(number);
     }
     System.out.println(wrong == 0 ? "all answers are as due" : wrong + " answers are not as due");
     System.out.println("most pieces of one cut: " + mostPieces);
-    if (wrong != 0 || mostPieces < 7) {
+    System.out.println("most pieces at one pixel: " + mostCovered);
+    System.out.println("refused calls: " + refused + ", pixels covered: " + hits);
+    if (wrong != 0 || mostPieces < 7 || mostCovered < 2) {
       System.exit(1);
     }
   }
