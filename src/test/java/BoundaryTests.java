@@ -402,6 +402,11 @@ public final class BoundaryTests {
     p.cut(false);
     due("column 7: first(0, 0)", p.first(0, 0), 7);
     due("column 7: last(0, 0)", p.last(0, 0), 7);
+    // Columns beyond the picture's height.
+    p = flat(48, 8, 700, 0, 768, 0, 700, 128);
+    p.cut(false);
+    due("column 44: first(0, 0)", p.first(0, 0), 44);
+    due("column 47: last(0, 0)", p.last(0, 0), 47);
     // Beyond the last column: none of the picture's pixels.
     p = flat(8, 8, 128, 0, 192, 0, 128, 128);
     due("column 8: cut", p.cut(false), 1);

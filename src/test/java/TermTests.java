@@ -20,6 +20,7 @@ public final class TermTests {
     numberOfJustZeroAndTwoOutside();
     inItsPlaceBetween();
     fewerThanThree();
+    oneSideAfterTheOther();
     halfAsManyMore();
     areaAboveAndBelowZero();
     areaZero();
@@ -27,6 +28,8 @@ public final class TermTests {
     edgesJustAtMiddles();
     slantedEdges();
     edgesJustBesideMiddles();
+    edgesOfOneSixteenth();
+    levelEdgesAllOver();
     mostNearness();
     System.out.println(wrong == 0 ? "all answers are as due" : wrong + " answers are not as due");
     if (wrong != 0) {
@@ -264,9 +267,9 @@ public final class TermTests {
       due("Y of " + x[n], p.piece(0, 0, 1), 64 + want[n]);
       due("X of 0", p.piece(0, 0, 0), 64);
     }
-    // 4294967296 / 65535 = 65537.00002, / 65537 = 65535.00002.
-    int[] z = {4096, 4097, 65535, 65536, 65537, FAR - 1, FAR};
-    int[] r = {1048576, 1048320, 65537, 65536, 65535, 256, 256};
+    // 4294967296 / 65535 = 65537.00002, / 65537 = 65535.00002. 641 * 6700417 is just 1 above it.
+    int[] z = {4096, 4097, 65535, 65536, 65537, 6700416, 6700417, FAR - 1, FAR};
+    int[] r = {1048576, 1048320, 65537, 65536, 65535, 641, 640, 256, 256};
     for (int n = 0; n < z.length; n++) {
       PieceCutter p = flat(8, 64, 64, 128, 0, 128, 128);
       p.place(0, 0, 0, z[n]);
@@ -425,6 +428,47 @@ public final class TermTests {
       p.place(1, 1000, 0, z);
       p.place(2, 0, 1000, z);
       due("all at z " + z + ": cut(true)", p.cut(true), 0);
+    }
+  }
+
+  /**
+   * The sides in their order, once each. Where rounding puts a new corner a little outside of its
+   * side, or where two sides cut off the same corner, another order or a side taken twice would
+   * leave other corners than these.
+   */
+  private static void oneSideAfterTheOther() {
+    int[] at = {-621, -484, 16090, -765, -758, 4250, -429, -428, 4016};
+    int[] left = {67, 137, 266933, -385, -337, 556992, -385, -370, 914017};
+    dueOnePiece("near, left, once left", 48, 48, 512, at, left);
+    at = new int[] {488, -161, 4342, -29, 628, -8130, -763, -252, 10360};
+    left = new int[] {160, -64, 1048576, -64, -20, 1048576, -65, -65, 913628};
+    dueOnePiece("left, right", 8, 8, 512, at, left);
+    at = new int[] {-12, 189, 4373, -361, -496, 4187, 587, -767, 4155};
+    left = new int[] {361, 738, 982155, -219, -386, 1019213, 1068, -386, 1013442};
+    dueOnePiece("right, upper", 48, 48, 512, at, left);
+    at = new int[] {-14866, -22954, -7420, 6607, 11565, 4139, -4016, -19272, 4060};
+    left = new int[] {591, 192, 1043988, 503, -64, 1048576, 503, -65, 1046531};
+    dueOnePiece("upper, lower", 48, 8, 16, at, left);
+    at = new int[] {24138, 10630, 4568, -15393, -10977, 3980, 19618, 15253, 3902};
+    left = new int[] {1152, 654, 975020, 1152, 862, 1048576, -91, -36, 1048576};
+    dueOnePiece("once right", 48, 48, 16, at, left);
+    at = new int[] {-688, 778, 4120, 1284, -1603, 3950, -1597, -2342, 4307};
+    left = new int[] {-64, 253, 1048576, -65, -385, 1040195, 75, -384, 1048576};
+    dueOnePiece("once upper", 8, 48, 128, at, left);
+    at = new int[] {-58, 2839, 3869, -246, 2022, 17296, 973, 1271, -3247};
+    left = new int[] {353, 1152, 608956, 354, 623, 248321, 651, 1152, 1046531};
+    dueOnePiece("once lower", 48, 48, 128, at, left);
+  }
+
+  private static void dueOnePiece(String call, int w, int h, int f, int[] at, int[] left) {
+    PieceCutter p = new PieceCutter(w, h);
+    p.focus(f);
+    for (int k = 0; k < 3; k++) {
+      p.place(k, at[3 * k], at[3 * k + 1], at[3 * k + 2]);
+    }
+    due(call + ": cut(true)", p.cut(true), 1);
+    for (int n = 0; n < 9; n++) {
+      due(call + ": piece(0, " + n / 3 + ", " + n % 3 + ")", p.piece(0, n / 3, n % 3), left[n]);
     }
   }
 
@@ -603,6 +647,34 @@ public final class TermTests {
         due("to the right" + call, p.covered(3, 3), ifUpOrRight);
         p = turned(by, 57, 56, 39, 56 + e, 56, 20);
         due("to the left" + call, p.covered(3, 3), ifDownOrLeft);
+      }
+    }
+  }
+
+  /** Edges that go up or down by one 16th, with a corner just at the middle of 3, 3. */
+  private static void edgesOfOneSixteenth() {
+    for (int by = 0; by < 3; by++) {
+      due("up by 1 to it", turned(by, 40, 57, 56, 56, 90, 56).covered(3, 3), 1);
+      due("down by 1 to it", turned(by, 40, 55, 56, 56, 90, 60).covered(3, 3), 0);
+      due("up by 1 from it", turned(by, 56, 56, 90, 55, 60, 90).covered(3, 3), 1);
+      due("down by 1 from it", turned(by, 56, 56, 90, 57, 60, 90).covered(3, 3), 0);
+      due("to the left, up by 1", turned(by, 72, 57, 56, 56, 60, 20).covered(3, 3), 1);
+      due("to the left, down by 1", turned(by, 72, 55, 56, 56, 60, 20).covered(3, 3), 0);
+    }
+  }
+
+  /** Level edges in every row of middles, near the left and near the right end of it. */
+  private static void levelEdgesAllOver() {
+    for (int row = 1; row < 7; row++) {
+      int y = 16 * row + 8;
+      for (int column = 1; column < 6; column++) {
+        int x = 16 * column + 8;
+        PieceCutter p = turned(row % 3, x - 1, y, x + 17, y, x, y + 16);
+        due("to the right at " + column + ", " + row, p.covered(column, row), 1);
+        due("to the right at its end", p.covered(column + 1, row), 1);
+        p = turned(row % 3, x + 17, y, x - 1, y, x, y - 16);
+        due("to the left at " + column + ", " + row, p.covered(column, row), 0);
+        due("to the left at its end", p.covered(column + 1, row), 0);
       }
     }
   }
