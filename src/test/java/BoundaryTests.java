@@ -562,6 +562,21 @@ public final class BoundaryTests {
     due("over one another: near(1, 33, 32)", p.near(1, 33, 32) > 0, true);
     p.cut(false);
     due("one of them: covered(33, 32)", p.covered(33, 32), 1);
+    // Of ten corners' pieces three, one of them turned: 45, 1 is in 0, 1 and 2.
+    p = new PieceCutter(48, 33);
+    p.focus(507);
+    p.place(0, -388, 267, 4099);
+    p.place(1, 2348444, -2291571, -14826317);
+    p.place(2, -11105, 12339, 106876);
+    due("three: cut(true)", p.cut(true), 7);
+    due("three: covered(44, 1)", p.covered(44, 1), 0);
+    due("three: covered(45, 1)", p.covered(45, 1), 3);
+    due("three: covered(46, 1)", p.covered(46, 1), 1);
+    for (int i = 0; i < 7; i++) {
+      due("three: near(" + i + ", 45, 1)", p.near(i, 45, 1) > 0, i < 3);
+    }
+    due("two of the three: cut(false)", p.cut(false), 5);
+    due("two of the three: covered(45, 1)", p.covered(45, 1), 2);
   }
 
   // -- What it is: at most 512 calls

@@ -1,7 +1,10 @@
+import java.io.IOException;
 import java.lang.reflect.Constructor;
 import java.lang.reflect.Field;
 import java.lang.reflect.Method;
 import java.lang.reflect.Modifier;
+import java.nio.file.Files;
+import java.nio.file.Path;
 import java.util.Set;
 import java.util.TreeSet;
 
@@ -23,7 +26,7 @@ public final class FaceTests {
           "public int PieceCutter.number(int,int,int,int)",
           "public int PieceCutter.covered(int,int)");
 
-  public static void main(String[] args) {
+  public static void main(String[] args) throws IOException {
     Set<String> seen = new TreeSet<>();
     Set<String> publicNames = new TreeSet<>();
     for (Field f : PieceCutter.class.getDeclaredFields()) {
@@ -44,6 +47,7 @@ public final class FaceTests {
     if (!good) {
       System.out.println("the face is " + seen);
     }
+    good &= isTheDocuments(seen);
     good &= noPrivateMethodNamed(PieceCutter.class, publicNames);
     for (Class<?> inside : PieceCutter.class.getDeclaredClasses()) {
       good &= noPrivateMethodNamed(inside, publicNames);
@@ -56,6 +60,30 @@ public final class FaceTests {
     if (!good) {
       System.exit(1);
     }
+  }
+
+  /** Against the lines of the document's own code block, in the words that reflection uses. */
+  private static boolean isTheDocuments(Set<String> seen) throws IOException {
+    Set<String> written = new TreeSet<>();
+    for (String line : Files.readAllLines(Path.of("..", "shared", "DOC.md"))) {
+      if (line.startsWith("    public ")) {
+        written.add(asReflectionTells(line.strip()));
+      }
+    }
+    boolean good = seen.equals(written);
+    if (!good) {
+      System.out.println("the document's face is " + written);
+    }
+    return good;
+  }
+
+  private static String asReflectionTells(String line) {
+    String member =
+        line.replaceAll(" = .*;|;", "")
+            .replaceAll("(int|boolean) \\w+(, |\\))", "$1$2")
+            .replace(", ", ",");
+    boolean constructor = member.startsWith("public PieceCutter(");
+    return constructor ? member : member.replaceFirst("(\\w+)($|\\()", "PieceCutter.$1$2");
   }
 
   private static boolean noPrivateMethodNamed(Class<?> where, Set<String> names) {

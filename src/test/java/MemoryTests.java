@@ -1,3 +1,5 @@
+import com.sun.management.ThreadMXBean;
+import java.lang.management.ManagementFactory;
 import java.lang.reflect.Array;
 import java.lang.reflect.Field;
 import java.lang.reflect.Modifier;
@@ -11,6 +13,9 @@ import java.util.Set;
 public final class MemoryTests {
   private static final int MOST_OBJECTS = 20;
   private static final int MOST_FIELDS = 1000;
+  private static final int ROUNDS = 20;
+  // The smallest object there is has 16 bytes: if one kind of call made one, it would show.
+  private static final long BYTES_OF_ONE_EACH_ROUND = 16L * ROUNDS;
 
   public static void main(String[] args) throws IllegalAccessException {
     PieceCutter one = new PieceCutter(48, 48);
@@ -22,6 +27,8 @@ public final class MemoryTests {
     good &= due("its own", Collections.disjoint(after, held(other)));
     good &= due("few objects", after.size() <= MOST_OBJECTS);
     good &= due("few fields", fieldsAndElements(after) <= MOST_FIELDS);
+    long made = bytesMade(other);
+    good &= due("no call makes anything (" + made + " bytes)", made < BYTES_OF_ONE_EACH_ROUND);
     System.out.println(
         "an object holds " + after.size() + " objects, " + fieldsAndElements(after) + " numbers");
     System.out.println(good ? "all answers are as due" : "the memory is not as due");
@@ -37,9 +44,17 @@ public final class MemoryTests {
     return holds;
   }
 
+  private static long bytesMade(PieceCutter p) {
+    ThreadMXBean threads = (ThreadMXBean) ManagementFactory.getThreadMXBean();
+    threads.getCurrentThreadAllocatedBytes();
+    long before = threads.getCurrentThreadAllocatedBytes();
+    useAll(p);
+    return threads.getCurrentThreadAllocatedBytes() - before;
+  }
+
   /** Every kind of call, with a ring of nine corners among the cuts. */
   private static void useAll(PieceCutter p) {
-    for (int n = 0; n < 20; n++) {
+    for (int n = 0; n < ROUNDS; n++) {
       p.focus(509);
       p.place(0, -387, -3, 4104);
       p.place(1, 1799603, -2170411, -15999220);

@@ -485,15 +485,26 @@ public final class ModelTests {
     }
   }
 
-  /** Close to three corners whose ring is not convex: up to nine corners, one above 3 + 5. */
+  /** Width, height, focus and three places that leave nine corners, or ten, not convex. */
+  private static final int[][] NOT_CONVEX = {
+    {48, 48, 509, -387, 0, 4104, 1800000, -2170306, -16000000, -9440, 12000, 100000},
+    {48, 41, 511, -385, 329, 4100, 2074797, -2635356, -15710955, -9585, 12814, 93083},
+    {46, 38, 511, -369, 305, 4101, 2414769, -4542725, -12796617, -15822, 31549, 110599},
+    {48, 33, 507, -388, 267, 4099, 2348444, -2291571, -14826317, -11105, 12339, 106876},
+    {48, 31, 510, -388, 251, 4123, 1624689, -1654771, -14859116, -8862, 9187, 89086}
+  };
+
+  /** Just there at first, and then close to it. */
   private static void roundNotConvex(int number) {
-    int[][] middle = {{-387, 0, 4104}, {1800000, -2170306, -16000000}, {-9440, 12000, 100000}};
-    Run run = new Run("not convex " + number, 48, 48);
-    run.focus(509);
+    int[] near = NOT_CONVEX[number % NOT_CONVEX.length];
+    int close = number < NOT_CONVEX.length ? 0 : 1;
+    Run run = new Run("not convex " + number, near[0], near[1]);
+    run.focus(near[2]);
     for (int k = 0; k < 3; k++) {
-      int reach = k == 1 ? 1000 : 1;
-      int x = middle[k][0] + within(reach);
-      run.place(k, x, middle[k][1] + within(reach), middle[k][2] + within(reach));
+      int reach = close * (k == 1 ? 1000 : 1);
+      int x = near[3 + 3 * k] + within(reach);
+      int y = near[4 + 3 * k] + within(reach);
+      run.place(k, x, y, near[5 + 3 * k] + within(reach));
       run.paint(k, within(65536), within(65536), upTo(65537));
     }
     run.cut(true);
@@ -513,7 +524,7 @@ public final class ModelTests {
     System.out.println("most pieces of one cut: " + mostPieces);
     System.out.println("most pieces at one pixel: " + mostCovered);
     System.out.println("refused calls: " + refused + ", pixels covered: " + hits);
-    if (wrong != 0 || mostPieces < 7 || mostCovered < 2) {
+    if (wrong != 0 || mostPieces < 8 || mostCovered < 3) {
       System.exit(1);
     }
   }

@@ -22,6 +22,7 @@ public final class TermTests {
     fewerThanThree();
     oneSideAfterTheOther();
     halfAsManyMore();
+    halfAsManyMoreTwiceCrossed();
     areaAboveAndBelowZero();
     areaZero();
     areaSignPieceByPiece();
@@ -493,6 +494,36 @@ public final class TermTests {
       dueCorner("half as many more", p, i, 2, ring[i + 2]);
     }
     due("half as many more: area(7)", p.area(7), -1);
+  }
+
+  private static void halfAsManyMoreTwiceCrossed() {
+    // 4, 6, 7, 8, and the last side is crossed four times: 10 corners, two more than 3 + 5.
+    PieceCutter p = new PieceCutter(48, 41);
+    p.focus(511);
+    p.place(0, -385, 329, 4100);
+    p.place(1, 2074797, -2635356, -15710955);
+    p.place(2, -9585, 12814, 93083);
+    int[][] ring = {
+      {-384, 982, 1047808}, {-385, 982, 1048064}, {-385, 980, 1048576}, {982, -329, 1048576},
+      {1150, -329, 649375}, {1151, -212, 360406}, {-5, 983, 134744}, {-388, 983, 1044241},
+      {-386, 983, 1044241}, {-386, 982, 1044750}
+    };
+    int[] areas = {2, 4043, 220248, 180789, 454061, 383, -2, 2};
+    due("ten corners: cut(true)", p.cut(true), 8);
+    for (int i = 0; i < 8; i++) {
+      boolean turned = areas[i] < 0;
+      due("ten corners: area(" + i + ")", p.area(i), Math.abs(areas[i]));
+      dueCorner("ten corners", p, i, 0, ring[0]);
+      dueCorner("ten corners", p, i, turned ? 2 : 1, ring[i + 1]);
+      dueCorner("ten corners", p, i, turned ? 1 : 2, ring[i + 2]);
+    }
+    due("ten corners: area(8)", p.area(8), -1);
+    // Without BOTH the seventh is nothing, and the eighth is the last.
+    due("ten corners: cut(false)", p.cut(false), 7);
+    due("ten corners: area(5)", p.area(5), 383);
+    due("ten corners: area(6)", p.area(6), 2);
+    dueCorner("ten corners", p, 6, 2, ring[9]);
+    due("ten corners: area(7)", p.area(7), -1);
   }
 
   // -- ON THE PICTURE: AREA 0, above and below
